@@ -769,12 +769,8 @@ public final class JumpDesk {
         private final int[] x = new int[LAYERS];
         private final int[] y = new int[LAYERS];
 
-        private static boolean isLayer(int layer) {
-            return layer >= 0 && layer < LAYERS;
-        }
-
         private void blowAt(int layer, int alongX, int alongY) {
-            if (isLayer(layer)) {
+            if (layer >= 0 && layer < LAYERS) {
                 x[layer] = alongX;
                 y[layer] = alongY;
             }
@@ -788,11 +784,11 @@ public final class JumpDesk {
         }
 
         private int alongX(int layer) {
-            return isLayer(layer) ? x[layer] : 0;
+            return layer >= 0 && layer < LAYERS ? x[layer] : 0;
         }
 
         private int alongY(int layer) {
-            return isLayer(layer) ? y[layer] : 0;
+            return layer >= 0 && layer < LAYERS ? y[layer] : 0;
         }
 
         private int squareOnGround() {
@@ -915,7 +911,8 @@ public final class JumpDesk {
 
         /** How much lower it is behind second s of its fall. */
         private int dropIn(int s) {
-            return 10 * Math.min(10 * (s + 1), FASTEST[kind]);
+            int gathered = 10 * (s + 1);
+            return 10 * (gathered < FASTEST[kind] ? gathered : FASTEST[kind]);
         }
 
         private boolean opensBehind(int s, int height) {

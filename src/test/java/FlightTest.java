@@ -8,6 +8,7 @@ public final class FlightTest {
         down();
         whereRefused();
         near();
+        nearAlongY();
         nearBeyond();
         between();
         betweenNone();
@@ -202,6 +203,31 @@ public final class FlightTest {
         Due.due("the same", x.near(0, 1, 1), JumpDesk.NUMBER);
     }
 
+    /** Both track the same way along y, 30 seconds behind one another. */
+    private static void nearAlongY() {
+        Due.part("promise 23, y");
+        JumpDesk x = new JumpDesk();
+        x.group(2, 6000, 0, 1);
+        x.group(2, 6000, 0, 1);
+        x.load(0);
+        x.put(0, 0, 1);
+        x.put(0, 1, 30);
+        x.wind(0, 0, 100);
+        x.wind(1, 0, 100);
+        // Under canopies the first is 30 times 400 behind, 30 times 50 lower, and 30 seconds longer in the wind.
+        Due.due("wind", x.near(0, 0, 1), 12000L * 12000 + 1500 * 1500 + 3000 * 3000);
+        x.wind(1, 0, 0);
+        x.wind(0, 0, 0);
+        Due.due("no wind", x.near(0, 0, 1), 12000L * 12000 + 1500 * 1500);
+        x.group(2, 6000, 0, 3);
+        x.out(0, 1);
+        x.put(0, 2, 30);
+        int track = x.where(0, 0, 1000, 1);
+        Due.due("the other way", x.where(0, 1, 1000, 1), -track);
+        Due.holds("farther apart by twice that under canopies, so nearest is earlier",
+            x.near(0, 0, 1) > 12000L * 12000 + 1500 * 1500 && x.near(0, 0, 1) <= 12000L * 12000 + 4L * track * track + 1500 * 1500);
+    }
+
     private static void nearBeyond() {
         Due.part("promise 23, beyond");
         JumpDesk x = new JumpDesk();
@@ -306,6 +332,7 @@ public final class FlightTest {
         Due.due("its pause", x.in(1, 20), 1);
         shortestOfAll();
         unlikeInTheMiddle();
+        lastOfAll();
     }
 
     /** Groups that are unlike and lie the wrong way round, ranks that all allow: by the betweens themselves. */
@@ -371,6 +398,35 @@ public final class FlightTest {
         for (int i = 0; i < 5; i++) {
             Due.due("group " + i, x.in(0, 10 + i), due[i]);
             Due.due("pause " + i, x.in(0, 20 + i), 1);
+        }
+    }
+
+    /** Of all 720 orders the last one, by number, is the shortest that ranks allow. */
+    private static void lastOfAll() {
+        JumpDesk x = new JumpDesk();
+        for (int layer = 0; layer < 12; layer++) {
+            x.wind(layer, 152, 0);
+        }
+        x.rule(0, 3300);
+        x.group(2, 14000, 0, 0);
+        x.group(2, 11000, 0, 2);
+        x.group(3, 9000, 0, 0);
+        x.group(1, 9000, 0, 0);
+        x.group(0, 12000, 0, 0);
+        x.group(0, 11000, 0, 0);
+        x.rule(8, 3);
+        x.rule(9, 2);
+        x.load(0);
+        for (int g = 0; g < 6; g++) {
+            x.put(0, g, 1);
+        }
+        int best = sum(x, new int[] {5, 4, 3, 2, 1, 0});
+        Due.holds("4 ahead of 5 is longer", sum(x, new int[] {4, 5, 3, 2, 1, 0}) > best);
+        Due.holds("0 ahead of 1 is longer", sum(x, new int[] {5, 4, 3, 2, 0, 1}) > best);
+        Due.holds("both are longer", sum(x, new int[] {4, 5, 3, 2, 0, 1}) > best);
+        Due.due("sum", x.order(0), best);
+        for (int i = 0; i < 6; i++) {
+            Due.due("group " + i, x.in(0, 10 + i), 5 - i);
         }
     }
 
@@ -526,5 +582,24 @@ public final class FlightTest {
         x.put(1, 2, 1);
         Due.due("another load by what is now", x.where(1, 0, 0, 2), 15000);
         Due.due("another load by what is now", x.where(1, 0, 1, 0), 300);
+        anotherPlaneThen();
+    }
+
+    private static void anotherPlaneThen() {
+        JumpDesk x = new JumpDesk();
+        x.rule(1, 20000);
+        x.group(0, 9000, 0, 0);
+        x.join(0, 0);
+        x.plane(2, 3, 300, 300, 30000);
+        x.wind(7, 9, 8);
+        x.load(2);
+        x.put(0, 0, 1);
+        Due.due("leave", x.leave(0, 0), 1);
+        x.plane(2, 10, 1000, 400, 40000);
+        x.wind(7, 0, 0);
+        Due.due("plane", x.in(0, 0), 2);
+        Due.due("x", x.where(0, 0, 1, 0), 159);
+        Due.due("y", x.where(0, 0, 1, 1), 8);
+        Due.due("height", x.where(0, 0, 0, 2), 30000);
     }
 }

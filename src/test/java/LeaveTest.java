@@ -2,6 +2,8 @@
 public final class LeaveTest {
     public static void main(String[] args) {
         oneByOne();
+        planesAtFirst();
+        homeByY();
         ofSeveralTheFirst();
         learners();
         limits();
@@ -53,6 +55,53 @@ public final class LeaveTest {
         Due.due("left", x.why(0, 0), 1);
         x.load(2);
         Due.due("without groups", x.why(1, 0), 2);
+    }
+
+    private static void planesAtFirst() {
+        Due.part("promise 27, planes at first");
+        JumpDesk x = new JumpDesk();
+        x.rule(1, 20000);
+        for (int g = 0; g < 3; g++) {
+            x.group(0, 9000, 0, 0);
+        }
+        x.load(1);
+        for (int j = 0; j < 10; j++) {
+            x.jumper(j, 0, 100, 1000);
+            x.join(j / 4, j);
+        }
+        for (int g = 0; g < 3; g++) {
+            x.put(0, g, 5);
+        }
+        Due.due("10 of 100", x.why(0, 0), 0);
+        x.jumper(5, 0, 101, 1000);
+        Due.due("1001 in weight", x.why(0, 0), 4);
+        x.join(2, 20);
+        Due.due("11 jumpers", x.why(0, 0), 3);
+        x.group(0, 9000, 0, 0);
+        x.out(0, 0);
+        x.out(0, 0);
+        x.out(0, 0);
+        x.put(0, 3, 5);
+        x.put(0, 0, 5);
+        Due.due("the first one has no jumpers", x.why(0, 0), 2);
+    }
+
+    private static void homeByY() {
+        Due.part("promise 27, home");
+        JumpDesk x = ready();
+        x.out(0, 1);
+        x.rule(1, 1580);
+        x.start(0, -397);
+        x.wind(0, 0, 20);
+        Due.due("80 seconds of 20 along y", x.where(0, 0, 1000, 1), 1580);
+        Due.due("just home", x.why(0, 0), 0);
+        x.start(0, -396);
+        Due.due("one beside", x.why(0, 0), 11);
+        x.start(0, -397);
+        x.wind(0, 0, -20);
+        Due.due("y below nought, home", x.why(0, 0), 0);
+        x.rule(1, 1579);
+        Due.due("y below nought, not home", x.why(0, 0), 11);
     }
 
     /** All that bars, at once; then taken away one by one. */
@@ -191,6 +240,11 @@ public final class LeaveTest {
         Due.due("just free", x.why(0, 0), 0);
         x.rule(0, 1041);
         Due.due("just not", x.why(0, 0), 10);
+        x.group(0, 9000, 0, 0);
+        x.join(2, 9);
+        x.rule(0, 1000);
+        x.put(0, 2, 2);
+        Due.due("the second and the third are 2 seconds apart", x.why(0, 0), 10);
         outerOnes();
     }
 

@@ -40,7 +40,7 @@ public final class ModelRuns {
     }
 
     public static void main(String[] args) throws Exception {
-        int runs = args.length > 0 ? Integer.parseInt(args[0]) : 150;
+        int runs = args.length > 0 ? Integer.parseInt(args[0]) : 400;
         int from = args.length > 1 ? Integer.parseInt(args[1]) : 0;
         for (Method m : JumpDesk.class.getMethods()) OF_DESK.put(m.getName(), m);
         for (Method m : Model.class.getMethods()) OF_MODEL.put(m.getName(), m);

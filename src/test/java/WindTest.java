@@ -223,6 +223,9 @@ public final class WindTest {
         x.cell(0, 3, -31, 0);
         Due.due("-310", x.winds(0, 1), JumpDesk.NUMBER);
         x.cell(0, 3, 0, 0);
+        x.cell(0, 0, 31, 0);
+        Due.due("310 in layer 0", x.winds(0, 1), JumpDesk.NUMBER);
+        x.cell(0, 0, 0, 0);
         x.cell(0, 11, 31, 0);
         Due.due("310 in layer 11", x.winds(0, 1), JumpDesk.NUMBER);
         x.cell(0, 11, Integer.MAX_VALUE, 0);
