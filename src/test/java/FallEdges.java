@@ -270,19 +270,48 @@ public final class FallEdges {
         Edge.outside("what, left", Scene::make, (x, what) -> x.where(1, 0, 5, what), 0, 3, NONE_TOLD);
     }
 
-    private static void whenLeft() {
-        Due.part("promise 22: of a load that has left by these as they were then");
-        Edge.Call[] later = {x -> x.wind(4, 99, 98), x -> x.plane(1, 5, 500, 600, 47000), x -> x.wind(0, -1, -1)};
-        for (Edge.Call call : later) {
-            JumpDesk was = Edge.desk(Scene::make);
-            JumpDesk is = Edge.desk(Scene::make);
-            Due.due("changed", call.on(is), 1);
-            for (int t : new int[] {0, 1, 5, 100, 300, 1000}) {
-                for (int what = 0; what <= 3; what++) {
-                    Due.due("left, t " + t + " what " + what, is.where(1, 0, t, what), was.where(1, 0, t, what));
+    /** Load 0 of plane 1, which is unlike the others, with two groups, in a wind of its own in each layer. */
+    private static void aboutToLeave(JumpDesk x) {
+        blowByLayer(x);
+        x.plane(1, 10, 1000, 350, 46000);
+        x.rule(1, 20000);
+        x.load(1);
+        for (int g = 0; g < 2; g++) {
+            x.group(0, 9000, 0, 0);
+            x.join(g, g);
+            x.put(0, g, 30);
+        }
+        x.start(0, -6000);
+    }
+
+    private static void asAhead(String what, JumpDesk left) {
+        JumpDesk ahead = Edge.desk(FallEdges::aboutToLeave);
+        for (int i = 0; i < 2; i++) {
+            for (int t : new int[] {0, 1, 5, 40, 100, 200, 300, 1000}) {
+                for (int of = 0; of <= 3; of++) {
+                    String call = what + ", group " + i + " at " + t + " what " + of;
+                    Due.due(call, left.where(0, i, t, of), ahead.where(0, i, t, of));
                 }
             }
         }
+    }
+
+    private static void whenLeft() {
+        Due.part("promise 22: of a load that has left by these as they were then");
+        Edge.Call[] later = {x -> 1, x -> x.wind(0, -1, -1), x -> x.wind(4, 99, 98), x -> x.wind(11, 7, 7),
+            x -> x.plane(1, 5, 500, 600, 46000), x -> x.plane(1, 5, 500, 350, 47000)};
+        for (int n = 0; n < later.length; n++) {
+            JumpDesk left = Edge.desk(FallEdges::aboutToLeave);
+            Due.due("it leaves", left.leave(0, 0), 2);
+            Due.due("changed", later[n].on(left), 1);
+            asAhead("left, then change " + n, left);
+            Due.due("its plane is the same one", left.in(0, 0), 1);
+        }
+        JumpDesk bySheets = Edge.desk(FallEdges::aboutToLeave);
+        bySheets.leave(0, 0);
+        bySheets.sheet(0, 1);
+        Due.due("no wind at all", bySheets.winds(0, 0), 1);
+        asAhead("left, then winds from sheets", bySheets);
         Due.part("promise 22: by the wind, and its plane, as they are");
         JumpDesk x = Edge.desk(Scene::make);
         x.wind(10, 1, 2);

@@ -160,9 +160,23 @@ public final class FlightEdges {
         Due.holds("the first one is up then", first[downBehind + 60][3] == OPEN);
         Due.due("by where", nearOf(behind, 0, 1), least(first, second, 60, 0, 0));
         Due.holds("it comes nearer to where that one lies", least(first, second, 60, 0, 500) < least(first, second, 60, 0, 0));
+        Due.part("terms 3: near, of differences in y");
+        for (int direction = 1; direction <= 3; direction++) {
+            int to = direction;
+            Edge.Made tracks = x -> {
+                x.load(0);
+                for (int g = 0; g < 2; g++) {
+                    x.group(2, 6000, 0, g == 0 ? 1 : to);
+                    x.put(0, g, 2);
+                }
+            };
+            Due.due("tracks 1 and " + to, nearOf(tracks, 0, 1), least(way(tracks, 0), way(tracks, 1), 2, 0, 0));
+        }
         Due.part("terms 3: near, of any kinds");
         for (int kinds = 0; kinds < 16; kinds++) {
-            Edge.Made made = two(kinds / 4, kinds % 4, 7 + 3 * kinds, 200 + 25 * kinds, 15000 + 2000 * kinds, 90 - 12 * kinds);
+            int aside = 5 * kinds - 40;
+            Edge.Made along = two(kinds / 4, kinds % 4, 7 + 3 * kinds, 200 + 25 * kinds, 15000 + 2000 * kinds, 90 - 12 * kinds);
+            Edge.Made made = with(along, x -> x.wind(1, aside, 3 * aside));
             long due = least(way(made, 0), way(made, 1), 7 + 3 * kinds, 0, 0);
             Due.due("kinds " + kinds, nearOf(made, 0, 1), due);
         }
@@ -195,22 +209,27 @@ public final class FlightEdges {
         Edge.still("it changes nothing", low, y -> y.near(0, 0, 3), JumpDesk.BEYOND);
     }
 
+    /** Load 0 of plane 1, which is unlike the others, with two groups that the wind carries together and aside. */
+    private static void aboutToLeave(JumpDesk x) {
+        x.plane(1, 10, 1000, 300, 30000);
+        x.load(1);
+        for (int g = 0; g < 2; g++) {
+            x.group(g, 9000, 0, 0);
+            x.join(g, g);
+            x.put(0, g, 30);
+        }
+        x.wind(0, 40, 7);
+        x.wind(1, -5, 60);
+        x.wind(2, 5, 7);
+        x.rule(1, 20000);
+    }
+
     private static void nearAsThen() {
         Due.part("promise 23: wind and plane likewise");
-        Edge.Made left = x -> {
-            x.plane(1, 10, 1000, 300, 30000);
-            x.load(1);
-            for (int g = 0; g < 2; g++) {
-                x.group(g, 9000, 0, 0);
-                x.join(g, g);
-                x.put(0, g, 30);
-            }
-            x.wind(2, 5, 7);
-            x.rule(1, 20000);
-            x.leave(0, 0);
-        };
-        long was = Edge.desk(left).near(0, 0, 1);
+        long was = Edge.desk(FlightEdges::aboutToLeave).near(0, 0, 1);
+        Edge.Made left = with(FlightEdges::aboutToLeave, x -> x.leave(0, 0));
         Due.due("it left", Edge.desk(left).in(0, 3), 1);
+        Due.due("as ahead of it", Edge.desk(left).near(0, 0, 1), was);
         Edge.done("the wind then", left, x -> x.wind(2, 200, -90), 1, x -> x.near(0, 0, 1), was);
         Edge.done("the plane then", left, x -> x.plane(1, 10, 1000, 600, 47000), 1, x -> x.near(0, 0, 1), was);
         Edge.Made stays = row(30, 0, 1);
@@ -363,6 +382,14 @@ public final class FlightEdges {
         Edge.done("2950", made, x -> x.rule(0, 2950), 1000, x -> x.between(0, 0, 1), 59);
         Edge.done("2951", made, x -> x.rule(0, 2951), 1000, x -> x.between(0, 0, 1), 60);
         Edge.done("3000", made, x -> x.rule(0, 3000), 1000, x -> x.between(0, 0, 1), 60);
+        Due.part("terms 3: between, of all seconds: at one they are as far apart as free tells, then nearer");
+        for (int from = 3001; from <= 5000; from += 200) {
+            JumpDesk x = Edge.desk(carried(1, 0, 0));
+            for (int free = from; free < from + 200; free++) {
+                x.rule(0, free);
+                Due.due("free " + free, x.between(0, 0, 1), JumpDesk.NONE);
+            }
+        }
         Due.part("promise 24: NONE");
         Edge.done("3001", made, x -> x.rule(0, 3001), 1000, x -> x.between(0, 0, 1), JumpDesk.NONE);
         Edge.done("5000", made, x -> x.rule(0, 5000), 1000, x -> x.between(0, 0, 1), JumpDesk.NONE);
@@ -551,6 +578,30 @@ public final class FlightEdges {
         Edge.done("the longest sum", with(carried, x -> x.rule(0, 3000)), x -> x.order(0), 300, x -> x.in(0, 35), 300);
         Edge.still("none", with(carried, x -> x.rule(0, 3001)), x -> x.order(0), JumpDesk.NONE);
         Edge.done("the shortest sum", with(carried, x -> x.rule(0, 0)), x -> x.order(0), 5, x -> x.in(0, 35), 5);
+        // Who opens higher has to be behind, so that one order is left, by number the last of all or the first.
+        for (int step = -1000; step <= 1000; step += 2000) {
+            int by = step;
+            Edge.Made steps = x -> {
+                blow(x, 200, 0);
+                x.plane(0, 20, 4000, 200, 40000);
+                x.rule(0, 3001);
+                x.load(0);
+                for (int g = 0; g < 6; g++) {
+                    x.group(0, 10000 + by * g - 5 * Math.min(by, 0), 0, 0);
+                    x.put(0, g, 7);
+                }
+            };
+            JumpDesk x = Edge.desk(steps);
+            int sum = 0;
+            for (int i = 1; i < 6; i++) {
+                sum += by < 0 ? x.between(0, 6 - i, 5 - i) : x.between(0, i - 1, i);
+                Due.due("not the other way about", by < 0 ? x.between(0, 5 - i, 6 - i) : x.between(0, i, i - 1), JumpDesk.NONE);
+            }
+            Due.due("the only order, by " + by, x.order(0), sum);
+            for (int i = 0; i < 6; i++) {
+                Due.due("at " + i, x.in(0, 10 + i), by < 0 ? 5 - i : i);
+            }
+        }
         // Ranks that leave one order alone, the last of all by number.
         Edge.Made one = x -> {
             x.load(0);
@@ -822,12 +873,14 @@ public final class FlightEdges {
 
     private static void spotAsThen() {
         Due.part("promise 26: wind and plane likewise");
-        int least = Edge.desk(Scene::make).spot(Scene.LEFT_LOAD, 0);
-        int greatest = Edge.desk(Scene::make).spot(Scene.LEFT_LOAD, 1);
-        Edge.Call[] later = {x -> x.wind(0, -200, 150), x -> x.wind(4, 99, 98), x -> x.plane(1, 5, 500, 600, 47000)};
+        int least = Edge.desk(FlightEdges::aboutToLeave).spot(0, 0);
+        int greatest = Edge.desk(FlightEdges::aboutToLeave).spot(0, 1);
+        Edge.Made left = with(FlightEdges::aboutToLeave, x -> x.leave(0, 0));
+        Edge.Call[] later = {x -> 1, x -> x.wind(0, -200, 150), x -> x.wind(1, 99, 98),
+            x -> x.plane(1, 5, 500, 600, 47000)};
         for (Edge.Call call : later) {
-            Edge.done("left, least", Scene::make, call, 1, x -> x.spot(Scene.LEFT_LOAD, 0), least);
-            Edge.done("left, greatest", Scene::make, call, 1, x -> x.spot(Scene.LEFT_LOAD, 1), greatest);
+            Edge.done("left, least", left, call, 1, x -> x.spot(0, 0), least);
+            Edge.done("left, greatest", left, call, 1, x -> x.spot(0, 1), greatest);
         }
         int now = Edge.desk(Scene::make).spot(0, 0);
         Edge.Made blown = with(Scene::make, x -> x.wind(0, 12, -12));

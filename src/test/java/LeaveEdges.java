@@ -606,8 +606,13 @@ public final class LeaveEdges {
             Edge.done("" + jumpers, made, x -> x.leave(0, DAY), jumpers, x -> x.in(0, 3), 1);
             Edge.done("" + jumpers, made, x -> x.leave(0, DAY), jumpers, x -> x.many(2), 1);
         }
-        JumpDesk x = Edge.desk(LeaveEdges::ready);
-        JumpDesk was = Edge.desk(LeaveEdges::ready);
+        Edge.Made going = with(LeaveEdges::ready, x -> {
+            x.plane(0, 5, 400, 350, 38000);
+            x.wind(9, 40, -30);
+            x.wind(0, -10, 20);
+        });
+        JumpDesk x = Edge.desk(going);
+        JumpDesk was = Edge.desk(going);
         Due.due("4", x.leave(0, DAY), 4);
         for (int what : new int[] {0, 1, 2, 10, 11, 12, 20, 21, 22, 30, 31, 32}) {
             Due.due("in " + what + " stays", x.in(0, what), was.in(0, what));

@@ -80,10 +80,20 @@ public final class WindEdges {
         x.gap(0, 1);
         Due.due("shorter", x.sheet(0, 2), 1);
         Due.due("number 0", x.told(0, 0), 0);
-        Due.due("number 1, no gap any more", x.told(0, 1), 0);
+        Due.due("number 1", x.told(0, 1), 0);
         x.cell(0, 0, 4, 0);
+        Due.due("number 1, no gap any more", x.told(0, 1), 0);
         x.gap(0, 1);
         Due.due("numbers that were above it fill no gap", x.told(0, 1), 4000);
+        x.sheet(0, 2);
+        x.cell(0, 0, 4, 0);
+        Due.due("as long, no gap any more", x.told(0, 1), 0);
+        x.gap(0, 1);
+        x.lose(0);
+        x.sheet(0, 2);
+        x.cell(0, 0, 4, 0);
+        Due.due("lost, no gap any more", x.told(0, 1), 0);
+        x.sheet(0, 1);
         Due.due("longer", x.sheet(0, 20), 1);
         for (int i = 0; i < 20; i++) {
             Due.due("number " + i, x.told(0, i), 0);
@@ -358,6 +368,27 @@ public final class WindEdges {
         Edge.still("far too little", sheets(3, 1, Integer.MIN_VALUE, 0), x -> x.winds(0, 1), JumpDesk.NUMBER);
         Edge.done("not of a layer", sheets(13, 12, 31, 0), x -> x.winds(0, 1), 1, x -> x.blows(11, 0), 0);
         Edge.done("not of a layer", sheets(20, 19, -31, 0), x -> x.winds(1, 0), 1, x -> x.blows(11, 1), 0);
+        windsOfGaps();
+    }
+
+    private static Edge.Made gapAt(int at, Edge.Made made) {
+        return x -> {
+            made.on(x);
+            x.gap(0, at);
+        };
+    }
+
+    private static void windsOfGaps() {
+        Due.part("promise 7: of the filled numbers, a whole part of a layer isn't -300 to 300");
+        for (int layer = 0; layer < 12; layer++) {
+            int at = layer;
+            Edge.Made hidden = gapAt(layer, sheets(12, layer, 31, 0));
+            Edge.done("301 in a gap, " + at, hidden, x -> x.winds(0, 1), 1, x -> x.blows(at, 0), 0);
+        }
+        Edge.done("60 above the layers", gapAt(11, sheets(13, 12, 60, 0)), x -> x.winds(0, 1), 1, x -> x.blows(11, 0), 300);
+        Edge.still("61 above the layers", gapAt(11, sheets(13, 12, 61, 0)), x -> x.winds(0, 1), JumpDesk.NUMBER);
+        Edge.done("-60 above them", gapAt(11, sheets(13, 12, -60, 0)), x -> x.winds(1, 0), 1, x -> x.blows(11, 1), -300);
+        Edge.still("-61 above them", gapAt(11, sheets(13, 12, -61, 0)), x -> x.winds(1, 0), JumpDesk.NUMBER);
     }
 
     private static void windsAbove() {
