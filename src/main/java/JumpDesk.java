@@ -15,7 +15,7 @@ public final class JumpDesk {
     public static final int NONE = -7;
     public static final long BEYOND = 1L << 60;
 
-    private static final int NO_NUMBER_TOLD = Integer.MIN_VALUE;
+    private static final int NO_NUMBER_TOLD = -2147483648;
     private static final int NO_WIND_TOLD = -1000;
     private static final int NO_PLACE_TOLD = -1000000;
     private static final int NO_SPOT = -100001;

@@ -160,6 +160,7 @@ public final class FlightEdges {
         Due.holds("the first one is up then", first[downBehind + 60][3] == OPEN);
         Due.due("by where", nearOf(behind, 0, 1), least(first, second, 60, 0, 0));
         Due.holds("it comes nearer to where that one lies", least(first, second, 60, 0, 500) < least(first, second, 60, 0, 0));
+        nearAsOneComesDown();
         Due.part("terms 3: near, of differences in y");
         for (int direction = 1; direction <= 3; direction++) {
             int to = direction;
@@ -179,6 +180,28 @@ public final class FlightEdges {
             Edge.Made made = with(along, x -> x.wind(1, aside, 3 * aside));
             long due = least(way(made, 0), way(made, 1), 7 + 3 * kinds, 0, 0);
             Due.due("kinds " + kinds, nearOf(made, 0, 1), due);
+        }
+    }
+
+    /** Under canopies the one behind is lower all the way; it comes down by less than 50, so that it would be nearer. */
+    private static void nearAsOneComesDown() {
+        Due.part("terms 3: near, and neither is down: nearest as the one behind comes down");
+        for (int last = 10; last <= 40; last += 10) {
+            int height = 16000 + last;
+            Edge.Made made = x -> {
+                x.plane(0, 10, 1000, 200, height);
+                x.wind(1, 100, 0);
+                x.load(0);
+                for (int g = 0; g < 4; g++) {
+                    x.group(g == 3 ? 1 : 0, g == 3 ? 6000 : 15000, 0, 0);
+                    x.put(0, g, 50);
+                }
+            };
+            int[][] first = way(made, 0);
+            int[][] second = way(made, 3);
+            long due = least(first, second, 150, 0, 0);
+            Due.holds("as it comes down it would be nearer", least(first, second, 150, 0, 1) < due);
+            Due.due("by where, last " + last, nearOf(made, 0, 3), due);
         }
     }
 

@@ -249,6 +249,23 @@ public final class LeaveEdges {
                 why("one of them went out", with(made, x -> x.out(0, g)), 0);
             }
         }
+        Due.part("promise 27: 6, whichever of its jumpers");
+        for (int n = 0; n < 16; n++) {
+            int first = n / 4;
+            int second = n % 4;
+            Edge.Made full = x -> {
+                x.rule(1, 20000);
+                x.load(0);
+                for (int g = 0; g < 2; g++) {
+                    x.group(0, 9000, 0, 0);
+                    x.put(0, g, 5);
+                    for (int i = 0; i < 4; i++) {
+                        x.join(g, i == (g == 0 ? first : second) ? 31 : 4 * g + i);
+                    }
+                }
+            };
+            why("the one at " + first + " is the one at " + second, full, 6);
+        }
         Due.part("promise 27: 6, of its groups");
         why("the other one is in no load", with(crowd(4), x -> {
             x.group(0, 9000, 0, 0);

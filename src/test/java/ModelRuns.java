@@ -7,7 +7,8 @@ import java.util.Random;
 
 /**
  * Many runs of calls on a new JumpDesk and a new Model, the same ones each time: every answer has to be the
- * same. The arguments are mostly such as may be, often at an edge, and now and then anything.
+ * same, up to the last of the object's 512 calls. The arguments are mostly such as may be, often at an edge, and
+ * now and then anything.
  */
 public final class ModelRuns {
     private static final String[] NAMES = {
@@ -24,6 +25,8 @@ public final class ModelRuns {
         "near " + JumpDesk.BEYOND, "put -2", "put -5", "put -6", "out -6", "pause -6", "start -6", "join -2",
         "join -5", "join -6", "group -2", "load -2", "winds -3", "winds -1", "winds 1", "sheet -4"
     };
+    /** An object is good for so many calls: what later ones answer is free. */
+    private static final int CALLS = 512;
     private static final Map<String, Method> OF_DESK = new HashMap<>();
     private static final Map<String, Method> OF_MODEL = new HashMap<>();
 
@@ -129,18 +132,38 @@ public final class ModelRuns {
         }
     }
 
+    /** What is left of the object's calls asks what it is now, here and there. */
     private void lookAtAll() throws Exception {
-        for (int layer = -1; layer <= 12; layer++) for (int what = -1; what <= 2; what++) call("blows", layer, what);
-        for (int r = 0; r < 3; r++) for (int i = -1; i <= 20; i++) call("told", r, i);
-        for (int g = -1; g <= 20; g++) for (int what = -1; what <= 14; what++) call("of", g, what);
-        for (int l = -1; l <= 12; l++) for (int what = -1; what <= 41; what++) call("in", l, what);
-        for (int what = -1; what <= 4; what++) call("many", what);
         for (int l = 0; l < 12; l++) call("why", l, 0);
         for (int l = 0; l < 4; l++) {
             for (int i = 0; i < 6; i++) {
                 call("near", l, i, random.nextInt(6));
                 call("where", l, i, edged(0, 1000), edged(0, 3));
             }
+        }
+        while (same && told.size() < CALLS) {
+            lookAtOne();
+        }
+    }
+
+    private void lookAtOne() throws Exception {
+        switch (random.nextInt(8)) {
+            case 0:
+                call("blows", random.nextInt(14) - 1, random.nextInt(4) - 1);
+                break;
+            case 1:
+                call("told", random.nextInt(3), random.nextInt(22) - 1);
+                break;
+            case 2:
+            case 3:
+                call("of", random.nextInt(22) - 1, random.nextInt(16) - 1);
+                break;
+            case 4:
+                call("many", random.nextInt(6) - 1);
+                break;
+            default:
+                call("in", random.nextInt(model.many(1) + 2) - 1, random.nextInt(43) - 1);
+                break;
         }
     }
 
@@ -253,7 +276,7 @@ public final class ModelRuns {
     }
 
     private void call(String name, int... args) throws Exception {
-        if (!same) return;
+        if (!same || told.size() >= CALLS) return;
         Object due = ask(OF_MODEL, model, name, args);
         Object got = ask(OF_DESK, desk, name, args);
         StringBuilder text = new StringBuilder(name);
