@@ -777,6 +777,20 @@ public final class FlightEdges {
         Edge.still("least", far(5, 0), x -> x.spot(0, 0), -350 - 791 * 5);
         Edge.still("greatest", far(5, 0), x -> x.spot(0, 1), -350 - 791 * 5);
         endsOf("field 0", far(5, 0));
+        // It is in layer 10 for its first second alone: y is that second's wind.
+        for (int y : new int[] {-2, -1, 1, 2}) {
+            int reach = Math.abs(y);
+            Edge.Made beside = with(far(0, 0), x -> x.wind(10, 0, y));
+            Due.due("y", Edge.desk(beside).where(0, 0, 1000, 1), y);
+            Edge.still("y " + y + ", field 0, least", beside, x -> x.spot(0, 0), NO_SPOT);
+            Edge.still("y " + y + ", field 0, greatest", beside, x -> x.spot(0, 1), NO_SPOT);
+            Edge.Made less = with(beside, x -> x.rule(1, reach - 1));
+            Edge.still("y " + y + ", field one less", less, x -> x.spot(0, 0), NO_SPOT);
+            Edge.Made just = with(beside, x -> x.rule(1, reach));
+            Edge.still("y " + y + ", just, least", just, x -> x.spot(0, 0), -350);
+            Edge.still("y " + y + ", just, greatest", just, x -> x.spot(0, 1), -350);
+            endsOf("y " + y, just);
+        }
         Due.part("terms 3: home, x and y together");
         // 79 seconds of 15 along y are 1185; with x 1580 that is 1975.
         Edge.Made aside = x -> {

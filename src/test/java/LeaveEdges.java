@@ -538,6 +538,15 @@ public final class LeaveEdges {
         Edge.Made nought = with(crowd(1), x -> x.rule(1, 0));
         why("at the middle", with(nought, x -> x.start(0, -397)), 0);
         why("one beside", with(nought, x -> x.start(0, -396)), 11);
+        why("one aside", with(nought, x -> {
+            x.start(0, -397);
+            x.wind(10, 0, 1);
+        }), 11);
+        why("one aside, field 1", with(nought, x -> {
+            x.start(0, -397);
+            x.wind(10, 0, -1);
+            x.rule(1, 1);
+        }), 0);
         Due.part("promise 27: 11, one of six");
         for (int at = 0; at < 6; at++) {
             int far = at;
